@@ -150,6 +150,8 @@ public final class SettingUpTest {
     due.is("16: licker 1", x.lickerOf(1, 0), 3);
     due.is("16: all is there", x.status(6) + x.status(5) + x.status(4), 106);
     due.is("16: nothing is refused", x.status(12), 0);
+    due.is("16: a tape that is full", Due.kerb(x, "lick 0;".repeat(35) + "sun 0"), 36);
+    due.is("16: a full tape that ends too early", Due.kerb(x, "lick 0;".repeat(35) + "sun  "), -270);
     BeforeItDrips y = new BeforeItDrips();
     y.ask(4, 3);
     y.sun(63);
@@ -180,6 +182,9 @@ public final class SettingUpTest {
     fault(";", 0);
     fault("5", 0);
     fault("sidesx 5", 0);
+    fault("sidesa 5", 0);
+    fault("sidesz 5", 0);
+    fault("sides5z", 6);
     fault("side 5", 0);
     fault("Sides 5", 0);
     fault("sides", 5);
@@ -197,6 +202,9 @@ public final class SettingUpTest {
     fault("sides 5-", 7);
     fault("sides\t5", 5);
     fault("sides 5; scoop 9 99 sun 1", 20);
+    fault("scoop", 5);
+    fault("scoop;sun 1", 5);
+    fault("scoop 1;sun 1", 7);
     fault("scoop 10 1", 6);
     fault("scoop 1", 7);
     fault("scoop 1 100", 8);
@@ -215,6 +223,13 @@ public final class SettingUpTest {
     fault("sun 1 x", 6);
     fault("hold 21", 5);
     fault("hold", 4);
+    fault("hold;sun 1", 4);
+    fault("brim", 4);
+    fault("brim;sun 1", 4);
+    fault("licker", 6);
+    fault("licker;sun 1", 6);
+    fault("licker 1;sun 1", 8);
+    fault("lick;sun 1", 4);
     fault("brim 21", 5);
     fault("brim 1 brim", 7);
     fault("licker 6 0", 7);

@@ -46,9 +46,10 @@ public final class ShelvesTest {
     due.is("2: row(0, 0, -1)", x.row(0, 0, -1), -2);
     due.is("2: refused six times", x.status(12), 6);
     x.row(1, 2, 3);
+    x.set(1, 0, 9);
     x.set(1, 2, 9);
     due.is("2: a new row again", x.row(1, 3, 5), 1);
-    due.is("2: is 0 at first", x.element(1, 2), 0);
+    due.is("2: is 0 at first", x.element(1, 2) + x.element(1, 0), 0);
     due.is("2: has the new size", x.set(1, 4, 1), 1);
     due.is("2: has the new sort", x.holds(1), 3);
     x.licker(0, 0);
@@ -130,6 +131,12 @@ public final class ShelvesTest {
     due.is("5: element", x.element(0, 1), Long.MIN_VALUE);
     due.is("5: no element", x.element(0, 2), 0);
     due.is("5: no element below", x.element(0, -1), 0);
+    x.row(3, 0, 40);
+    x.set(3, 39, 4);
+    due.is("5: the last of forty", x.element(3, 39), 4);
+    due.is("5: none behind forty", x.element(3, 40), 0);
+    x.row(3, 0, 39);
+    due.is("5: none that was", x.element(3, 39), 0);
     due.is("5: a licker", x.element(1, 0), 0);
     due.is("5: nothing", x.element(2, 0), 0);
     due.is("5: no shelf", x.element(8, 0), 0);
