@@ -1216,29 +1216,29 @@ public final class BeforeItDrips {
             levels[0].takeFrom(from);
             foundLost = UNFOUND;
             foundEaten = 0;
-            deepen(0, k);
+            deepen(this, 0, k);
         }
 
-        private void deepen(int depth, int k) {
-            Cone here = levels[depth];
+        private static void deepen(Mind mind, int depth, int k) {
+            Cone here = mind.levels[depth];
             // What is lost never gets less: no row from here on can be the plan any more.
-            if (here.lost > foundLost) {
+            if (here.lost > mind.foundLost) {
                 return;
             }
             if (depth >= k || depth >= LONGEST_PLAN) {
-                weigh(here);
+                mind.weigh(here);
                 return;
             }
-            Cone next = levels[depth + 1];
+            Cone next = mind.levels[depth + 1];
             for (int act = ACT_NOTHING; act <= ACT_TURN_BACK; act++) {
                 // An idle lick comes to the same as act 0, which is tried first and so would win.
                 if (act != ACT_NOTHING && here.isIdle(act)) {
                     continue;
                 }
-                tried[depth] = act;
+                mind.tried[depth] = act;
                 next.takeFrom(here);
                 next.pass(act);
-                deepen(depth + 1, k);
+                deepen(mind, depth + 1, k);
             }
         }
 
