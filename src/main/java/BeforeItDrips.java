@@ -126,7 +126,7 @@ public final class BeforeItDrips {
         if (!isLicker(licker) || !isUnder(truth.kinds[licker], kind)) {
             return refuse(OTHER);
         }
-        return truth.kinds[licker] == LICKER ? truth.as[licker] : wouldIn(truth.cone, licker);
+        return kind == LICKER ? truth.as[licker] : wouldIn(truth.cone, licker);
     }
 
     // ---- what is set up ----

@@ -193,10 +193,6 @@ public final class Oracle {
     int chosen(State s) {
       return 1;
     }
-
-    int says(State s) {
-      return a;
-    }
   }
 
   private static class Round extends Licker {
@@ -212,10 +208,6 @@ public final class Oracle {
         }
       }
       return 5;
-    }
-
-    int says(State s) {
-      return act(s);
     }
   }
 
@@ -267,10 +259,6 @@ public final class Oracle {
         back++;
       }
       return back < on ? 6 : 5;
-    }
-
-    int says(State s) {
-      return act(s);
     }
   }
 
@@ -499,7 +487,8 @@ public final class Oracle {
       if (!kinds[kind].isInstance(l)) {
         throw new Refused(-3);
       }
-      return l.says(cone);
+      int[] saidAs = {l.a, l.act(cone), l.act(cone), l.act(cone), l.act(cone), l.act(cone)};
+      return saidAs[kind];
     });
   }
 

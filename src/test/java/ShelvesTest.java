@@ -187,15 +187,15 @@ public final class ShelvesTest {
   private static void says() {
     // Kinds 0 to 5 against the kinds that they can be taken for.
     int[] takenFor = {0b000001, 0b000011, 0b000101, 0b001101, 0b010011, 0b100101};
-    int[] acts = {0, 5, 0, 0, 5, 0};
+    int[] acts = {1, 5, 0, 0, 5, 0};
     for (int kind = 0; kind <= 5; kind++) {
       BeforeItDrips x = new BeforeItDrips();
       x.scoop(0, 9);
       x.licker(kind, 7);
       x.show(2, 0);
-      acts[0] = 7;
       for (int taken = 0; taken <= 5; taken++) {
-        int want = (takenFor[kind] >> taken & 1) != 0 ? acts[kind] : -3;
+        int said = taken == 0 ? 7 : acts[kind];
+        int want = (takenFor[kind] >> taken & 1) != 0 ? said : -3;
         due.is("8: a licker of kind " + kind + " taken for " + taken, x.says(2, taken), want);
       }
       due.is("8: no kind", x.says(2, 6), -2);
@@ -215,6 +215,47 @@ public final class ShelvesTest {
     x.act(0);
     due.is("8: by their own kind: SLOW waits", x.says(0, 1), 0);
     due.is("8: by their own kind: ROUND licks", x.says(1, 1), 1);
-    due.is("8: taken for a LICKER it does the same", x.says(1, 0), 1);
+    due.is("8: taken for a LICKER it says its a", x.says(1, 0), 0);
+    saysByOwnKind();
+  }
+
+  /** Rim 1 at side 2, wet 3 at side 5, nothing in front: the kinds do different things, worked by hand. */
+  private static BeforeItDrips coneWithALicker(int kind, int a) {
+    BeforeItDrips x = new BeforeItDrips();
+    x.scoop(1, 50);
+    x.sun(1 << 2);
+    x.ask(0, 0);
+    x.act(0);
+    x.ask(0, 5);
+    x.sun(1 << 5);
+    for (int second = 0; second < 3; second++) {
+      x.act(0);
+    }
+    x.licker(kind, a);
+    x.show(0, 0);
+    return x;
+  }
+
+  private static void saysByOwnKind() {
+    // A kind, the kind right above it, its a, its act; DEEP with 1, 2, 3 seconds: nothing to eat, 6 1 eats 3, 0 6 1 eats 4.
+    int[][] lickers = {{1, 1, 9, 5}, {4, 1, 2, 5}, {4, 1, 1, 0}, {2, 2, 8, 6}, {3, 2, 1, 5}, {5, 2, 9, 0}, {5, 2, 1, 6},
+        {5, 2, 2, 0}};
+    for (int[] row : lickers) {
+      BeforeItDrips x = coneWithALicker(row[0], row[2]);
+      String told = "8: kind " + row[0] + " with " + row[2] + " taken for ";
+      due.is(told + "a LICKER", x.says(0, 0), row[2]);
+      due.is(told + "its own kind", x.says(0, row[0]), row[3]);
+      due.is(told + "the kind above it", x.says(0, row[1]), row[3]);
+      due.is("8: nothing was refused", x.status(12) + x.status(13) + x.status(14), 0);
+      x.anew();
+      due.is(told + "a LICKER, no scoop", x.says(0, 0), row[2]);
+      due.is(told + "its own kind, no scoop", x.says(0, row[0]), 0);
+    }
+    BeforeItDrips x = coneWithALicker(0, 4);
+    due.is("8: a LICKER says its a", x.says(0, 0), 4);
+    for (int taken = 1; taken <= 5; taken++) {
+      due.is("8: a LICKER is none of kind " + taken, x.says(0, taken), -3);
+    }
+    due.is("8: other than was wanted, five times", x.status(13), 5);
   }
 }
