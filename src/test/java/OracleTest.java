@@ -42,7 +42,7 @@ public final class OracleTest {
   private static void oneRun(int run) throws ReflectiveOperationException {
     BeforeItDrips x = new BeforeItDrips();
     Oracle o = new Oracle();
-    int calls = 0;
+    int calls = run % 2 == 0 ? 0 : fullCone(run, x, o);
     while (calls < 512) {
       if (random.nextInt(25) == 0 || calls == 0) {
         String text = kerbText();
@@ -65,6 +65,22 @@ public final class OracleTest {
       }
     }
     compareAll(run, x, o);
+  }
+
+  /** Three scoops and four lickers, who else are seldom drawn together; how many calls it took. */
+  private static int fullCone(int run, BeforeItDrips x, Oracle o) throws ReflectiveOperationException {
+    compare(run, x, o, "sides", within(3, 8));
+    compare(run, x, o, "ask", 0L, within(0, 8));
+    compare(run, x, o, "ask", 1L, within(0, 8));
+    for (int i = 0; i < 3; i++) {
+      compare(run, x, o, "scoop", within(0, 9), within(20, 99));
+      compare(run, x, o, "sun", within(0, 7));
+      compare(run, x, o, "act", within(0, 6));
+    }
+    for (int i = 0; i < 4; i++) {
+      compare(run, x, o, "licker", within(0, 5), within(0, 9));
+    }
+    return 16;
   }
 
   private static String[] drawnCall() {

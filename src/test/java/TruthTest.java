@@ -12,7 +12,12 @@ public final class TruthTest {
     day();
     anew();
     seed();
+    doneAndLicksAtMost();
+    swapOfAll();
+    anewOfAll();
     imageAndBack();
+    shelvesBehindBack();
+    imagesOfAll();
     status();
     refusalsChangeNothing();
     due.end();
@@ -264,6 +269,161 @@ public final class TruthTest {
     due.is("47: nothing LEFT", x.anew(), 0);
     x.scoop(9, 99);
     due.is("47: a new scoop is dry", x.scoopOf(0, 2), 0);
+  }
+
+  private static void doneAndLicksAtMost() {
+    BeforeItDrips x = drippingCone();
+    x.licker(0, 0);
+    x.row(0, 0, 40);
+    x.row(1, 3, 0);
+    due.is("40: none of no elements", x.done(1, 0), 0);
+    due.is("40: none of forty", x.done(0, 0), 0);
+    due.is("40: no second", x.status(3), 0);
+    due.is("40: forty", x.done(0, 40), 99);
+    due.is("40: forty SECONDS", x.status(3), 40);
+    due.is("44: one", x.licks(0, 1), 0);
+    due.is("44: one SECOND", x.status(3), 41);
+    due.is("44: sixty", x.licks(0, 60), 0);
+    due.is("44: sixty SECONDS", x.status(3), 101);
+    due.is("46: one", x.day(0, 1), 0);
+    due.is("46: one SECOND", x.status(3), 102);
+    due.is("46: sixty", x.day(0, 60), 0);
+    due.is("46: sixty SECONDS", x.status(3), 162);
+    told(x, 2, 0, 0, 0, 3, 0);
+    due.is("40: nothing is done ahead of what is WRONG", x.done(2, 4), -5);
+    due.is("40: no SECONDS by what is STUCK", x.status(3), 162);
+    due.is("40: the first two", x.done(2, 2), 0);
+    due.is("40: two SECONDS", x.status(3), 164);
+    BeforeItDrips none = new BeforeItDrips();
+    none.licker(1, 0);
+    due.is("44: of an empty cone", none.licks(0, 60), 0);
+    due.is("44: SECONDS of an empty cone", none.status(3), 60);
+  }
+
+  private static void swapOfAll() {
+    int[][] wet = {{1, 0, 0, 2, 0, 0, 0, 3}, {4, 0, 5, 0, 0, 0, 0, 6}, {7, 8, 0, 0, 0, 0, 0, 9}};
+    for (int scoop = 0; scoop < 3; scoop++) {
+      for (int other = 0; other < 3; other++) {
+        BeforeItDrips x = Poured.cone(new int[8], wet[0], wet[1], wet[2]);
+        int seconds = x.status(3);
+        due.is("45: " + scoop + " and " + other, x.swap(scoop, other), scoop == other ? 0 : 1);
+        for (int i = 0; i < 3; i++) {
+          int was = i == scoop ? other : i == other ? scoop : i;
+          for (int side = 0; side < 8; side++) {
+            due.is("45: WET of " + i + " at " + side, x.wet(i, side), wet[was][side]);
+          }
+        }
+        due.is("45: no SECOND goes by", x.status(3), seconds);
+      }
+    }
+  }
+
+  private static void anewOfAll() {
+    BeforeItDrips x = Poured.cone(new int[] {4, 1, 0}, new int[] {5, 6, 7});
+    x.scoop(9, 99);
+    x.scoop(0, 11);
+    x.licker(2, 2);
+    x.ask(1, 3);
+    x.ask(2, 8);
+    x.ask(3, 9);
+    x.ask(4, 2);
+    x.sun(6);
+    x.seed(5);
+    x.act(4);
+    int[] ahead = new int[22];
+    for (int what = 0; what < 22; what++) {
+      ahead[what] = x.status(what);
+    }
+    due.is("47: LEFT ahead", x.anew(), ahead[6]);
+    for (int what = 0; what < 22; what++) {
+      boolean goes = what == 1 || what == 6 || what == 7;
+      due.is("47: status(" + what + ") behind", x.status(what), goes ? 0 : ahead[what]);
+    }
+    due.is("47: it had dripped", ahead[4], 1);
+    due.is("47: no DROPS", x.drop(-1), 0);
+    due.is("47: SIDES may be asked for again", x.sides(8), 3);
+    for (int side = 0; side < 8; side++) {
+      due.is("47: RIM at " + side, x.wet(-1, side), 0);
+    }
+    due.is("47: the licker is there", x.lickerOf(0, 1), 2);
+    due.is("47: scoops from 0 on", x.scoop(1, 1), 0);
+  }
+
+  private static void shelvesBehindBack() {
+    for (int there = 0; there <= 4; there++) {
+      BeforeItDrips x = new BeforeItDrips();
+      for (int licker = 0; licker < there; licker++) {
+        x.licker(1, licker);
+      }
+      x.image();
+      for (int licker = there; licker < 4; licker++) {
+        x.licker(2, 9);
+      }
+      for (int s = 0; s < 8; s++) {
+        x.show(s, (s + there) % 4);
+      }
+      x.anew();
+      due.is("47: SHELVES stay", x.status(17), 8);
+      due.is("50: back to " + there + " lickers", x.back(), 1);
+      for (int s = 0; s < 8; s++) {
+        int licker = (s + there) % 4;
+        due.is("50: shelf " + s + " with " + there, x.holds(s), licker < there ? 10 + licker : -1);
+        due.is("50: says " + s + " with " + there, x.says(s, 0), licker < there ? licker : -4);
+      }
+      due.is("50: LICKERS", x.status(2), there);
+      due.is("50: SHELVES that hold something", x.status(17), 2 * there);
+      due.is("50: there is room again", x.licker(5, 5), there < 4 ? there : -6);
+    }
+    // A licker of the same number, who is another one.
+    BeforeItDrips x = new BeforeItDrips();
+    x.image();
+    x.licker(4, 4);
+    x.show(0, 0);
+    x.row(1, 4, 40);
+    x.back();
+    due.is("50: none of that number", x.holds(0), -1);
+    due.is("50: rows stay", x.holds(1), 4);
+    x.licker(3, 6);
+    x.show(0, 0);
+    x.image();
+    x.back();
+    due.is("50: who is there stays", x.says(0, 3), 0);
+    due.is("50: its a", x.says(0, 0), 6);
+  }
+
+  private static void imagesOfAll() {
+    BeforeItDrips x = drippingCone();
+    x.image();
+    x.row(0, 0, 40);
+    due.is("49: twenty-five drops", x.done(0, 25), 75);
+    x.back();
+    due.is("50: none", x.drop(-1), 0);
+    due.is("50: SECONDS go back", x.status(3), 0);
+    due.is("50: LOST goes back", x.status(4), 0);
+    x.act(0);
+    x.act(0);
+    due.is("49: image", x.image(), 1);
+    x.anew();
+    x.sides(8);
+    x.seed(-1);
+    for (int i = 0; i < 2; i++) {
+      due.is("50: back", x.back(), 1);
+      due.is("50: drops", x.drop(-1), 2);
+      due.is("50: SIDES", x.status(0), 3);
+      due.is("50: SCOOPS", x.status(1), 1);
+      due.is("50: SEED", x.status(11), 1);
+      due.is("50: AMOUNT", x.scoopOf(0, 1), 93);
+      x.act(0);
+      x.scoop(1, 1);
+      x.swap(0, 1);
+    }
+    Due.feed(x, "hold 3");
+    x.image();
+    x.wipe();
+    Due.feed(x, "hold 7;");
+    x.back();
+    due.is("50: THE TAPE is as it is", x.status(10), 7);
+    due.is("50: its bytes, too", x.kerb(), -27);
   }
 
   private static void seed() {
