@@ -794,8 +794,9 @@ public final class BeforeItDrips {
 
     private void thinkRun(int licker, int n) {
         thought.takeFrom(truth.cone);
+        // The mind is asked without wouldIn between, here and in lickInTruth, so that no calls go more than eight deep.
         for (int second = 0; second < n; second++) {
-            thought.pass(wouldIn(thought, licker));
+            thought.pass(mind.choose(thought, truth.kinds[licker], truth.as[licker]));
         }
     }
 
@@ -810,7 +811,7 @@ public final class BeforeItDrips {
 
     private void lickInTruth(int licker, int n) {
         for (int second = 0; second < n; second++) {
-            truth.actInTruth(wouldIn(truth.cone, licker));
+            truth.actInTruth(mind.choose(truth.cone, truth.kinds[licker], truth.as[licker]));
         }
     }
 

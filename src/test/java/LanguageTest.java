@@ -21,6 +21,8 @@ public final class LanguageTest {
       + " gives() wettest() largestScoop() melted() judge(int,int) behind(int,int,int) done(int,int) drop(int)"
       + " went(int,int) act(int) licks(int,int) swap(int,int) day(int,int) anew() seed(int) image() back() status(int)";
 
+  private static final Set<String> LIBRARY = Set.of("arraycopy", "length", "charAt", "min", "max");
+
   public static void main(String[] args) throws IOException {
     face();
     classesInside();
@@ -111,6 +113,24 @@ public final class LanguageTest {
         }
         due.holds("rule 11: the length of " + lines[i].trim(), end - i < 60);
       }
+    }
+    depth(new CallDepth(text));
+  }
+
+  private static void depth(CallDepth calls) {
+    for (Class<?> inside : BeforeItDrips.class.getDeclaredClasses()) {
+      foundBy(calls, inside);
+    }
+    foundBy(calls, BeforeItDrips.class);
+    due.holds("rule 11: calls go at most eight deep, not " + calls.deepest(), calls.deepest() <= 8);
+    due.holds("rule 4: the library: " + calls.library(), LIBRARY.containsAll(calls.library()));
+    due.is("a plan passes seconds", calls.of("Mind.findPlan") - calls.of("Mind.deepen"), 1);
+    due.is("a second melts", calls.of("Cone.pass") - calls.of("Cone.melt"), 1);
+  }
+
+  private static void foundBy(CallDepth calls, Class<?> type) {
+    for (Method m : type.getDeclaredMethods()) {
+      due.holds("CallDepth finds " + m.getName(), m.isSynthetic() || calls.finds(type.getSimpleName() + "." + m.getName()));
     }
   }
 
